@@ -29,7 +29,7 @@ public final class SearchGrids {
 
     private final int cells;
     /** The told cells stand first, by number; behind them spare ones, so that none is ever null. */
-    private final Cell[] told;
+    private final Cell[] toldCells;
     private int toldCount;
     private final Looker[] lookers;
     private int lookerCount;
@@ -46,9 +46,9 @@ public final class SearchGrids {
     public SearchGrids(int cells) {
         this.cells = cells < 1 ? 1 : cells > MOST_CELLS ? MOST_CELLS : cells;
         rates = new int[MOST_LOOKERS];
-        told = new Cell[MOST_TOLD];
+        toldCells = new Cell[MOST_TOLD];
         for (int i = 0; i < MOST_TOLD; i++) {
-            told[i] = new Cell(rates);
+            toldCells[i] = new Cell(rates);
         }
         lookers = new Looker[MOST_LOOKERS];
         for (int i = 0; i < MOST_LOOKERS; i++) {
@@ -72,7 +72,7 @@ public final class SearchGrids {
             return fraction(cell2 == seenCell ? 1 : 0, 1, part);
         }
         int at = placeOf(cell2);
-        return fraction(at == NONE ? 0 : told[at].countOf[0], allCounts(), part);
+        return fraction(at == NONE ? 0 : toldCells[at].countOf[0], allCounts(), part);
     }
 
     public int looker(long width, long speed, int hours) {
@@ -108,7 +108,7 @@ public final class SearchGrids {
         }
         dropPlan();
         for (int i = 0; i < toldCount; i++) {
-            told[i].reckonGains();
+            toldCells[i].reckonGains();
         }
         int given = 0;
         while (given < steps && giveBestHour()) {
@@ -122,7 +122,7 @@ public final class SearchGrids {
             return NONE;
         }
         int at = placeOf(cell3);
-        return at == NONE ? 0 : told[at].planned[looker2];
+        return at == NONE ? 0 : toldCells[at].planned[looker2];
     }
 
     public boolean tried() {
@@ -142,7 +142,7 @@ public final class SearchGrids {
             return NONE;
         }
         int hours = (int) hours2;
-        this.told[at].looked[looker3] += hours;
+        toldCells[at].looked[looker3] += hours;
         return looks.add(looker3, cell4, hours, told);
     }
 
@@ -154,7 +154,7 @@ public final class SearchGrids {
             return fraction(cell5 == seenCell ? 1 : 0, 1, part);
         }
         int at = placeOf(cell5);
-        return fraction(at == NONE ? 0 : told[at].remains(), allRemains(), part);
+        return fraction(at == NONE ? 0 : toldCells[at].remains(), allRemains(), part);
     }
 
     public boolean sums() {
@@ -167,17 +167,17 @@ public final class SearchGrids {
         }
         long weights = 0;
         for (int i = 0; i < toldCount; i++) {
-            weights += told[i].weight();
+            weights += toldCells[i].weight();
         }
         return fraction(plannedFinds(), weights * WHOLE, part);
     }
 
     public int line(int cell6, int k, int axis) {
         int at = placeOf(cell6);
-        if (at == NONE || !isWithin(k, 0, told[at].squares - 1) || !isPart(axis)) {
+        if (at == NONE || !isWithin(k, 0, toldCells[at].squares - 1) || !isPart(axis)) {
             return NONE;
         }
-        int width = rowWidth(told[at].squares);
+        int width = rowWidth(toldCells[at].squares);
         return axis == 0 ? placeInRow(k, width) : rowOf(k, width);
     }
 
@@ -186,7 +186,7 @@ public final class SearchGrids {
         if (at == NONE) {
             return false;
         }
-        int squares = told[at].squares;
+        int squares = toldCells[at].squares;
         int width = rowWidth(squares);
         for (int i = 0; i < MOST_SQUARES; i++) {
             gone[i] = false;
@@ -231,7 +231,7 @@ public final class SearchGrids {
         if (at == NONE) {
             return false;
         }
-        told[at].countOf[thing] = (int) n2;
+        toldCells[at].countOf[thing] = (int) n2;
         dropPlan();
         return true;
     }
@@ -262,11 +262,11 @@ public final class SearchGrids {
             return NONE;
         }
         for (int i = 0; i < toldCount; i++) {
-            told[i].standing = standingOf(told[i]);
+            toldCells[i].standing = standingOf(toldCells[i]);
         }
         for (int i = 0; i < toldCount; i++) {
             if (countBefore(i) == k) {
-                return told[i].number;
+                return toldCells[i].number;
             }
         }
         return NONE;
@@ -277,7 +277,7 @@ public final class SearchGrids {
         if (at == NONE || !isLooker(by) || seenCell != NONE) {
             return false;
         }
-        if (told[at].looked[by] == 0 || told[at].countOf[0] == 0) {
+        if (toldCells[at].looked[by] == 0 || toldCells[at].countOf[0] == 0) {
             return false;
         }
         seenCell = cell9;
@@ -316,8 +316,8 @@ public final class SearchGrids {
         if (at == NONE) {
             return false;
         }
-        told[at].squares = squares;
-        told[at].scale = MOST_SQUARES / squares;
+        toldCells[at].squares = squares;
+        toldCells[at].scale = MOST_SQUARES / squares;
         dropPlan();
         return true;
     }
@@ -341,7 +341,7 @@ public final class SearchGrids {
     /** Where a cell stands among the told ones, or NONE. */
     private int placeOf(int cell) {
         for (int i = 0; i < toldCount; i++) {
-            if (told[i].number == cell) {
+            if (toldCells[i].number == cell) {
                 return i;
             }
         }
@@ -354,14 +354,14 @@ public final class SearchGrids {
         if (at != NONE || toldCount >= MOST_TOLD) {
             return at;
         }
-        Cell fresh = told[toldCount];
+        Cell fresh = toldCells[toldCount];
         fresh.number = cell;
         at = toldCount;
-        while (at > 0 && told[at - 1].number > cell) {
-            told[at] = told[at - 1];
+        while (at > 0 && toldCells[at - 1].number > cell) {
+            toldCells[at] = toldCells[at - 1];
             at--;
         }
-        told[at] = fresh;
+        toldCells[at] = fresh;
         toldCount++;
         return at;
     }
@@ -369,7 +369,7 @@ public final class SearchGrids {
     private long allCounts() {
         long sum = 0;
         for (int i = 0; i < toldCount; i++) {
-            sum += told[i].countOf[0];
+            sum += toldCells[i].countOf[0];
         }
         return sum;
     }
@@ -377,7 +377,7 @@ public final class SearchGrids {
     private long allRemains() {
         long sum = 0;
         for (int i = 0; i < toldCount; i++) {
-            sum += told[i].remains();
+            sum += toldCells[i].remains();
         }
         return sum;
     }
@@ -385,7 +385,7 @@ public final class SearchGrids {
     private void dropPlan() {
         for (int i = 0; i < toldCount; i++) {
             for (int j = 0; j < MOST_LOOKERS; j++) {
-                told[i].planned[j] = 0;
+                toldCells[i].planned[j] = 0;
             }
         }
         for (int j = 0; j < MOST_LOOKERS; j++) {
@@ -404,8 +404,8 @@ public final class SearchGrids {
         for (int j = 0; j < lookerCount; j++) {
             boolean free = lookers[j].given < lookers[j].use;
             for (int i = 0; free && i < toldCount; i++) {
-                if (told[i].gains[j] > most) {
-                    most = told[i].gains[j];
+                if (toldCells[i].gains[j] > most) {
+                    most = toldCells[i].gains[j];
                     bestLooker = j;
                     bestAt = i;
                 }
@@ -414,10 +414,10 @@ public final class SearchGrids {
         if (bestLooker == NONE || bestAt == NONE) {
             return false;
         }
-        told[bestAt].planned[bestLooker]++;
+        toldCells[bestAt].planned[bestLooker]++;
         lookers[bestLooker].given++;
         // One hour more changes the gains of its own cell alone.
-        told[bestAt].reckonGains();
+        toldCells[bestAt].reckonGains();
         return true;
     }
 
@@ -432,7 +432,7 @@ public final class SearchGrids {
     private long plannedFinds() {
         long sum = 0;
         for (int i = 0; i < toldCount; i++) {
-            sum += told[i].finds(told[i].planned);
+            sum += toldCells[i].finds(toldCells[i].planned);
         }
         return sum;
     }
@@ -446,7 +446,7 @@ public final class SearchGrids {
         if (at >= toldCount) {
             return false;
         }
-        Cell cell = told[at];
+        Cell cell = toldCells[at];
         if (left == 0) {
             return sum + cell.finds(cell.trial) > due;
         }
@@ -477,8 +477,8 @@ public final class SearchGrids {
     private int countBefore(int at) {
         int before = 0;
         for (int i = 0; i < toldCount; i++) {
-            boolean greater = told[i].standing > told[at].standing;
-            boolean sameAndLesserCell = told[i].standing == told[at].standing && i < at;
+            boolean greater = toldCells[i].standing > toldCells[at].standing;
+            boolean sameAndLesserCell = toldCells[i].standing == toldCells[at].standing && i < at;
             if (greater || sameAndLesserCell) {
                 before++;
             }
@@ -512,7 +512,7 @@ public final class SearchGrids {
     /** A part of above / below in lowest terms; 0 over 1 when there is nothing below. */
     private static long fraction(long above, long below, int part) {
         if (above <= 0 || below <= 0) {
-            return part;
+            return part == 0 ? 0 : 1;
         }
         long common = commonDivisor(above, below);
         return (part == 0 ? above : below) / common;
