@@ -65,7 +65,7 @@ public final class SearchGrids {
     }
 
     public long odds(int cell2, int part) {
-        if (!isCell(cell2) || !isPart(part)) {
+        if (!isCell(cell2) || !isZeroOrOne(part)) {
             return NONE;
         }
         if (seenCell != NONE) {
@@ -147,7 +147,7 @@ public final class SearchGrids {
     }
 
     public long after(int cell5, int part) {
-        if (!isCell(cell5) || !isPart(part)) {
+        if (!isCell(cell5) || !isZeroOrOne(part)) {
             return NONE;
         }
         if (seenCell != NONE) {
@@ -162,7 +162,7 @@ public final class SearchGrids {
     }
 
     public long found(int part) {
-        if (!isPart(part)) {
+        if (!isZeroOrOne(part)) {
             return NONE;
         }
         long weights = 0;
@@ -174,7 +174,7 @@ public final class SearchGrids {
 
     public int line(int cell6, int k, int axis) {
         int at = placeOf(cell6);
-        if (at == NONE || !isWithin(k, 0, toldCells[at].squares - 1) || !isPart(axis)) {
+        if (at == NONE || !isWithin(k, 0, toldCells[at].squares - 1) || !isZeroOrOne(axis)) {
             return NONE;
         }
         int width = rowWidth(toldCells[at].squares);
@@ -330,8 +330,8 @@ public final class SearchGrids {
         return number >= 0 && number < lookerCount;
     }
 
-    private static boolean isPart(int part) {
-        return part == 0 || part == 1;
+    private static boolean isZeroOrOne(int n) {
+        return n == 0 || n == 1;
     }
 
     private static boolean isWithin(long n, long least, long most) {

@@ -233,6 +233,25 @@ public final class PromisesTest {
         due("share(100), until all of the one weight is found", x.share(100), 3);
         duePlan(x, "share(100)", new int[][] {{3, 0, 0}});
         dueFound(x, 1, 1);
+
+        // The last hour gains the least that there is, 1 over 720 to the fourth.
+        SearchGrids y = smallestParts();
+        due("share(4)", y.share(4), 4);
+        dueFound(y, 268738559999L, 268738560000L);
+        due("share(100), down to the smallest gain", y.share(100), 5);
+        dueFound(y, 1, 1);
+    }
+
+    /** One count in 720 squares, and lookers who leave one square an hour; only the last has a second hour. */
+    private static SearchGrids smallestParts() {
+        SearchGrids x = new SearchGrids(2);
+        x.counts(0, 1);
+        x.area(0, 720);
+        x.looker(719, 1, 1);
+        x.looker(719, 1, 1);
+        x.looker(719, 1, 1);
+        x.looker(719, 1, 2);
+        return x;
     }
 
     private static void sharesForAllThings() {
@@ -314,9 +333,29 @@ public final class PromisesTest {
         z.share(2);
         duePlan(z, "share(2)", new int[][] {{1, 0}, {0, 1}});
         due("tried() of a plan that is outdone", z.tried(), false);
+        due("tried() of the same again", z.tried(), false);
         z.bar(1, 0);
         z.share(2);
         due("tried() when the other looker has no hour of use", z.tried(), true);
+
+        // The same with the cells the other way round, so that the better plan begins in the first cell.
+        SearchGrids w = new SearchGrids(2);
+        w.counts(0, 9);
+        w.counts(1, 10);
+        w.area(1, 30);
+        w.looker(60, 1, 1);
+        w.looker(30, 1, 1);
+        w.share(2);
+        duePlan(w, "share(2)", new int[][] {{0, 1}, {1, 0}});
+        due("tried() of a plan that is outdone from the first cell on", w.tried(), false);
+
+        SearchGrids v = twoCells();
+        v.share(1);
+        due("tried() of 1 hour of lookers who miss much", v.tried(), true);
+        v.share(2);
+        due("tried() of 2 hours of lookers who miss much", v.tried(), true);
+        v.look(0, 0, 100, 0);
+        due("tried() behind a look", v.tried(), true);
 
         triedEdges();
     }
@@ -428,6 +467,12 @@ public final class PromisesTest {
         due("sums() with all looked over", x.sums(), false);
         x.seen(1, 0);
         due("sums() when it was seen", x.sums(), true);
+        SearchGrids y = smallestParts();
+        for (int looker = 0; looker < 4; looker++) {
+            y.look(looker, 0, 1, 0);
+        }
+        due("sums() of the smallest part", y.sums(), true);
+        dueAfter(y, 0, 1, 1);
     }
 
     private static void whatThePlanFinds() {
@@ -710,6 +755,9 @@ public final class PromisesTest {
         dueOrder(x, "before looks", new int[] {5, 3, 7, 1, 8});
         due("order(5)", x.order(5), NONE);
         due("order(-1)", x.order(-1), NONE);
+        x.counts(1, 10);
+        dueOrder(x, "with most in the first", new int[] {1, 5, 3, 7, 8});
+        x.counts(1, 0);
         x.looker(30, 1, 1);
         x.look(0, 5, 1, 0);
         dueOrder(x, "with cell 5 at 4.5", new int[] {3, 7, 5, 1, 8});
