@@ -440,7 +440,7 @@ public final class SearchGrids {
     /**
      * Whether some way to give the hours that are left, from this told cell and looker on, brings the
      * sum above what is due. The trial hours of all that comes later are 0, before and behind the call.
-     * It goes no deeper than the places of all told cells and lookers and one for each cell, 24 in all.
+     * It goes one level deeper for each place of a looker in a told cell and for each cell: some 25 at most.
      */
     private boolean isOutdone(int at, int looker, int left, long sum, long due) {
         if (at >= toldCount) {
