@@ -48,7 +48,7 @@ public final class SearchGrids {
         rates = new int[MOST_LOOKERS];
         toldCells = new Cell[MOST_TOLD];
         for (int i = 0; i < MOST_TOLD; i++) {
-            toldCells[i] = new Cell(rates);
+            toldCells[i] = new Cell();
         }
         lookers = new Looker[MOST_LOOKERS];
         for (int i = 0; i < MOST_LOOKERS; i++) {
@@ -108,7 +108,7 @@ public final class SearchGrids {
         }
         dropPlan();
         for (int i = 0; i < toldCount; i++) {
-            toldCells[i].reckonGains();
+            toldCells[i].reckonGains(rates);
         }
         int given = 0;
         while (given < steps && giveBestHour()) {
@@ -154,7 +154,7 @@ public final class SearchGrids {
             return fraction(cell5 == seenCell ? 1 : 0, 1, part);
         }
         int at = placeOf(cell5);
-        return fraction(at == NONE ? 0 : toldCells[at].remains(), allRemains(), part);
+        return fraction(at == NONE ? 0 : toldCells[at].remains(rates), allRemains(), part);
     }
 
     public boolean sums() {
@@ -377,7 +377,7 @@ public final class SearchGrids {
     private long allRemains() {
         long sum = 0;
         for (int i = 0; i < toldCount; i++) {
-            sum += toldCells[i].remains();
+            sum += toldCells[i].remains(rates);
         }
         return sum;
     }
@@ -417,7 +417,7 @@ public final class SearchGrids {
         toldCells[bestAt].planned[bestLooker]++;
         lookers[bestLooker].given++;
         // One hour more changes the gains of its own cell alone.
-        toldCells[bestAt].reckonGains();
+        toldCells[bestAt].reckonGains(rates);
         return true;
     }
 
@@ -432,7 +432,7 @@ public final class SearchGrids {
     private long plannedFinds() {
         long sum = 0;
         for (int i = 0; i < toldCount; i++) {
-            sum += toldCells[i].finds(toldCells[i].planned);
+            sum += toldCells[i].finds(toldCells[i].planned, rates);
         }
         return sum;
     }
@@ -448,10 +448,10 @@ public final class SearchGrids {
         }
         Cell cell = toldCells[at];
         if (left == 0) {
-            return sum + cell.finds(cell.trial) > due;
+            return sum + cell.finds(cell.trial, rates) > due;
         }
         if (looker >= lookerCount) {
-            return isOutdone(at + 1, 0, left, sum + cell.finds(cell.trial), due);
+            return isOutdone(at + 1, 0, left, sum + cell.finds(cell.trial, rates), due);
         }
         Looker giver = lookers[looker];
         int most = Math.min(left, giver.use - giver.trial);
@@ -471,7 +471,7 @@ public final class SearchGrids {
         if (seenCell != NONE) {
             return cell.number == seenCell ? 1 : 0;
         }
-        return cell.remains();
+        return cell.remains(rates);
     }
 
     private int countBefore(int at) {
@@ -532,7 +532,6 @@ public final class SearchGrids {
     }
 
     private static final class Cell {
-        private final int[] rates;
         private final int[] countOf = new int[MOST_THINGS];
         /** Hours of each looker: by the plan, by looks, and by the plan that is being tried. */
         private final int[] planned = new int[MOST_LOOKERS];
@@ -545,10 +544,6 @@ public final class SearchGrids {
         private int scale = MOST_SQUARES / FIRST_SQUARES;
         private long standing;
 
-        private Cell(int[] rates) {
-            this.rates = rates;
-        }
-
         private long weight() {
             long sum = 0;
             for (int t = 0; t < MOST_THINGS; t++) {
@@ -557,35 +552,35 @@ public final class SearchGrids {
             return sum;
         }
 
-        /** What a looker misses in so many hours, in 720ths. */
-        private long missedBy(int looker, int hours) {
-            int lookedOver = Math.min(squares, hours * rates[looker]);
+        /** What a looker of so many squares an hour misses in so many hours, in 720ths. */
+        private long missedBy(int rate, int hours) {
+            int lookedOver = Math.min(squares, hours * rate);
             return (long) (squares - lookedOver) * scale;
         }
 
         /** What all lookers miss in their hours, in WHOLE-ths; those that are not there miss all. */
-        private long missed(int[] hours) {
+        private long missed(int[] hours, int[] rates) {
             long product = 1;
             for (int j = 0; j < MOST_LOOKERS; j++) {
-                product *= missedBy(j, hours[j]);
+                product *= missedBy(rates[j], hours[j]);
             }
             return product;
         }
 
-        private long finds(int[] hours) {
-            return weight() * (WHOLE - missed(hours));
+        private long finds(int[] hours, int[] rates) {
+            return weight() * (WHOLE - missed(hours, rates));
         }
 
         /** Thing 0's count times what was missed by the looks. */
-        private long remains() {
-            return countOf[0] * missed(looked);
+        private long remains(int[] rates) {
+            return countOf[0] * missed(looked, rates);
         }
 
-        private void reckonGains() {
-            long now = finds(planned);
+        private void reckonGains(int[] rates) {
+            long now = finds(planned, rates);
             for (int j = 0; j < MOST_LOOKERS; j++) {
                 planned[j]++;
-                gains[j] = finds(planned) - now;
+                gains[j] = finds(planned, rates) - now;
                 planned[j]--;
             }
         }
